@@ -123,8 +123,8 @@ public final class PromisePlatform {
     private final Machine machine = new Machine(pool);
     private final Search search = new Search(pool, machine);
     private final Journal journal = new Journal();
-    private int flaw = NONE;
-    private int flawPlace = NONE;
+    private final Num sum = new Num();
+    /** Whether what is done is a record's, which must not be written once more. */
     private boolean again;
 
     public PromisePlatform() {
@@ -198,7 +198,7 @@ public final class PromisePlatform {
     }
 
     public int fault(boolean place) {
-        return place ? flawPlace : flaw;
+        return place ? reader.faultPlace : reader.latestFault;
     }
 
     public int drop(int k) throws IndexOutOfBoundsException, IllegalStateException {
@@ -237,7 +237,7 @@ public final class PromisePlatform {
         if (roots[(int) k] != NONE) {
             return NO_STATE;
         }
-        if (isFaulty(parser.parse(tape, length))) {
+        if (reader.isFaulty(parser.parse(tape, length))) {
             return FAULTY;
         }
         if (pool.used + parser.nodes > MOST_NODES) {
@@ -348,7 +348,7 @@ public final class PromisePlatform {
         if (!reader.isName(name)) {
             return NO_ARGUMENT;
         }
-        if (isFaulty(reader.numberText(tape, length))) {
+        if (reader.isFaulty(reader.numberText(tape, length))) {
             return FAULTY;
         }
         if (parameters.find(name, 0) < 0 && parameters.used >= PARAMETERS) {
@@ -418,7 +418,7 @@ public final class PromisePlatform {
         if (!instance.begun) {
             return NO_STATE;
         }
-        if (isFaulty(reader.inputsText(tape, length, inputs))) {
+        if (reader.isFaulty(reader.inputsText(tape, length, inputs))) {
             return FAULTY;
         }
         draft.copy(instance);
@@ -496,7 +496,7 @@ public final class PromisePlatform {
         if (what == 3) {
             return tell(minted.held(token, 0));
         }
-        Num sum = new Num();
+        sum.clear();
         if (what != 1) {
             purses.addAll(token, sum);
         }
@@ -517,14 +517,15 @@ public final class PromisePlatform {
         if (!reader.isName(party) || !reader.isName(token)) {
             return NO_ARGUMENT;
         }
-        if (isFaulty(reader.numberText(tape, length))) {
+        if (reader.isFaulty(reader.numberText(tape, length))) {
             return FAULTY;
         }
         if (reader.number.sign <= 0) {
             return NOT_TAKEN;
         }
         // No wallet has more than what was minted of its token, so that this sum is the greater one.
-        if (!minted.hasRoomFor(token, 0, reader.number)) {
+        sum.copy(minted.held(token, 0));
+        if (!sum.grow(reader.number)) {
             return LARGE;
         }
         boolean oneMoreWallet = purses.find(party, token) < 0 && purses.used >= WALLETS;
@@ -623,8 +624,7 @@ public final class PromisePlatform {
             length = journal.soundLength();
         }
         again = false;
-        flaw = NONE;
-        flawPlace = NONE;
+        reader.forgetFault();
         return journal.records;
     }
 
@@ -693,12 +693,6 @@ public final class PromisePlatform {
         int length = taped;
         taped = 0;
         return length;
-    }
-
-    private boolean isFaulty(int found) {
-        flaw = found;
-        flawPlace = found == 0 ? NONE : reader.place;
-        return found != 0;
     }
 
     private int tell(Num number) {
@@ -786,7 +780,7 @@ public final class PromisePlatform {
 
         void setTime(long time) {
             clear();
-            for (long left = time; left > 0; left /= BASE) {
+            for (long left = time; left > 0 && len < LIMBS; left /= BASE) {
                 limb[len] = (int) (left % BASE);
                 len++;
             }
@@ -807,7 +801,7 @@ public final class PromisePlatform {
 
         /** Digits of a text, without needless zeros. */
         void setDigits(byte[] text, int from, int to, boolean minus) {
-            clear();
+            len = 0;
             for (int high = to; high > from && len < LIMBS; high -= LIMB_DIGITS) {
                 int value = 0;
                 for (int i = Math.max(from, high - LIMB_DIGITS); i < high; i++) {
@@ -874,9 +868,8 @@ public final class PromisePlatform {
                 len--;
             }
             boolean fits = len < LIMBS || limb[LIMBS - 1] < TOP_LIMB;
-            if (!fits || len == 0) {
-                clear();
-            }
+            len = fits ? len : 0;
+            sign = len == 0 ? 0 : sign;
             return fits;
         }
 
@@ -1070,7 +1063,6 @@ public final class PromisePlatform {
             first[at] = a;
             second[at] = b;
             nums[at] = spare;
-            spare.clear();
             used++;
             return true;
         }
@@ -1110,6 +1102,7 @@ public final class PromisePlatform {
                 if (!insert(at, a, b)) {
                     return WIDE;
                 }
+                nums[at].clear();
             }
             return nums[at].grow(number) ? 0 : LARGE;
         }
@@ -1126,17 +1119,11 @@ public final class PromisePlatform {
             }
         }
 
-        boolean hasRoomFor(long a, long b, Num number) {
-            Num sum = new Num();
-            sum.copy(held(a, b));
-            return sum.grow(number);
-        }
-
         /** Adds what all entries have whose second NAME is this one. */
-        void addAll(long b, Num sum) {
+        void addAll(long b, Num whole) {
             for (int i = 0; i < used; i++) {
                 if (second[i] == b) {
-                    sum.grow(nums[i]);
+                    whole.grow(nums[i]);
                 }
             }
         }
@@ -1212,7 +1199,6 @@ public final class PromisePlatform {
             first[at] = a;
             second[at] = b;
             third[at] = c;
-            nums[at].clear();
         }
 
         /** False if it would be one too many. */
@@ -1390,6 +1376,8 @@ public final class PromisePlatform {
         int place;
         long code;
         final Num number = new Num();
+        int latestFault = NONE;
+        int faultPlace = NONE;
 
         Reader() {
             int word = 0;
@@ -1401,6 +1389,18 @@ public final class PromisePlatform {
                     words[word] = (words[word] << 8) | c;
                 }
             }
+        }
+
+        /** Tells the fault of a text that was read, which is at the token that was read last. */
+        boolean isFaulty(int found) {
+            latestFault = found;
+            faultPlace = found == 0 ? NONE : place;
+            return found != 0;
+        }
+
+        void forgetFault() {
+            latestFault = NONE;
+            faultPlace = NONE;
         }
 
         void open(byte[] bytes, int howMany) {
@@ -1882,7 +1882,7 @@ public final class PromisePlatform {
             int over = pool.used + nodes;
             for (int n = over - 1; n >= pool.used; n--) {
                 int at = n + 1;
-                while (at < over && pool.deep[at] > pool.deep[n]) {
+                for (int i = n; i < over && at < over && pool.deep[at] > pool.deep[n]; i++) {
                     at = pool.behind[at];
                 }
                 pool.behind[n] = at;
@@ -2091,20 +2091,11 @@ public final class PromisePlatform {
             return name == 0 ? pool.first[node] : params.held(name, 0).asTime();
         }
 
-        /** Works out a value or an observation by a time alone; isLarge tells whether it can't be. */
-        boolean workAt(int node, long time) {
-            start = time;
-            end = time;
+        /** What is worked out from now on is so by this interval. */
+        void stand(long from, long to) {
+            start = from;
+            end = to;
             isLarge = false;
-            return work(node, 0);
-        }
-
-        boolean wasLarge() {
-            return isLarge;
-        }
-
-        Num result() {
-            return nums[0];
         }
 
         /** A value comes to be nums[depth]; the answer is an observation's alone. */
@@ -2114,7 +2105,7 @@ public final class PromisePlatform {
                 return false;
             }
             int kind = pool.kind[node];
-            if (shape(kind).length() == 0 || kind == HELD || kind == USE || kind == CHOSEN || kind == CHOSE) {
+            if (isLeaf(kind)) {
                 return leaf(node, nums[depth]);
             }
             int first = node + 1;
@@ -2148,6 +2139,13 @@ public final class PromisePlatform {
             }
             isLarge = isLarge || !fits;
             return false;
+        }
+
+        private static boolean isLeaf(int kind) {
+            switch (kind) {
+                case NUMBER: case PARAMETER: case HELD: case CHOSEN: case START: case END: case USE: return true;
+                default: return kind == CHOSE || kind == TRUE || kind == FALSE;
+            }
         }
 
         /** The part that was worked out last makes room for the next one. */
@@ -2193,9 +2191,7 @@ public final class PromisePlatform {
             if (to < state.least) {
                 return PAST;
             }
-            start = Math.max(from, state.least);
-            end = to;
-            isLarge = false;
+            stand(Math.max(from, state.least), to);
             closePaid = false;
             int before = state.node;
             int code = reduce();
@@ -2226,29 +2222,29 @@ public final class PromisePlatform {
             for (int step = 0; step < STEPS; step++) {
                 int node = state.node;
                 int kind = pool.kind[node];
-                int code = 0;
-                if (kind == CLOSE || kind == WHEN) {
-                    if (isQuietAt(end)) {
-                        return 0;
-                    }
-                    code = kind == CLOSE ? payFirstAccount() : passWhen(node);
+                if ((kind == CLOSE || kind == WHEN) && isQuietAt(end)) {
+                    return 0;
+                }
+                int code;
+                if (kind == WHEN) {
+                    code = passWhen(node);
+                } else if (kind == CLOSE) {
+                    long party = state.accounts.first[0];
+                    paid.copy(state.accounts.nums[0]);
+                    closePaid = true;
+                    code = payOut(0, party, party, state.accounts.second[0]);
                 } else {
                     boolean truth = work(node + 1, 0);
                     code = isLarge ? LARGE : pass(node, kind, truth);
+                    if (code == 0 && kind == PAY && paid.sign > 0) {
+                        code = payOut(pool.extra[node], pool.first[node], pool.second[node], pool.third[node]);
+                    }
                 }
                 if (code != 0) {
                     return code;
                 }
             }
             return 0;
-        }
-
-        private int payFirstAccount() {
-            long party = state.accounts.first[0];
-            long token = state.accounts.second[0];
-            paid.copy(state.accounts.nums[0]);
-            closePaid = true;
-            return payOut(0, party, party, token);
         }
 
         private int passWhen(int node) {
@@ -2259,23 +2255,16 @@ public final class PromisePlatform {
             return 0;
         }
 
-        /** Passes a contract whose value or observation is worked out. */
+        /** Passes a contract whose value or observation is worked out; what a pay pays is told by paid. */
         private int pass(int node, int kind, boolean truth) {
-            int code = 0;
             int next = pool.lastPart(node);
+            state.node = kind == IF && !truth ? pool.behind[next] : next;
             switch (kind) {
-                case IF: next = truth ? next : pool.behind[next]; break;
-                case ASSERT: code = truth || warnings.add(5, 0, 0, 0, paidNothing()) ? 0 : WIDE; break;
-                case LET: code = let(pool.first[node]); break;
-                default: code = pay(node); break;
+                case PAY: return weighPay(node);
+                case LET: return let(pool.first[node]);
+                case ASSERT: return truth || warnings.add(5, 0, 0, 0, nums[0]) ? 0 : WIDE;
+                default: return 0;
             }
-            state.node = next;
-            return code;
-        }
-
-        private Num paidNothing() {
-            paid.clear();
-            return paid;
         }
 
         private int let(long name) {
@@ -2286,21 +2275,20 @@ public final class PromisePlatform {
             return state.lets.put(name, 0, nums[0]) ? 0 : WIDE;
         }
 
-        private int pay(int node) {
+        /** Tells by paid what a pay takes from its account. */
+        private int weighPay(int node) {
             long payer = pool.first[node];
             long payee = pool.second[node];
             long token = pool.third[node];
             Num wanted = nums[0];
+            paid.clear();
             if (wanted.sign <= 0) {
                 return warnings.add(2, payer, payee, token, wanted) ? 0 : WIDE;
             }
             Num has = state.accounts.held(payer, token);
             boolean inFull = has.compare(wanted) >= 0;
-            if (!inFull && !warnings.add(3, payer, payee, token, wanted)) {
-                return WIDE;
-            }
             paid.copy(inFull ? wanted : has);
-            return paid.sign == 0 ? 0 : payOut(pool.extra[node], payer, payee, token);
+            return inFull || warnings.add(3, payer, payee, token, wanted) ? 0 : WIDE;
         }
 
         private int payOut(int sort, long payer, long payee, long token) {
@@ -2515,8 +2503,9 @@ public final class PromisePlatform {
 
         private boolean proposeWorked(int depth, int node) {
             cursors[depth] = pool.behind[node];
-            boolean truth = machine.workAt(node + 1, starts[depth]);
-            if (machine.wasLarge()) {
+            machine.stand(starts[depth], starts[depth]);
+            boolean truth = machine.work(node + 1, 0);
+            if (machine.isLarge) {
                 return false;
             }
             if (pool.kind[node] == NOTIFY) {
@@ -2524,7 +2513,7 @@ public final class PromisePlatform {
                 return truth;
             }
             path.set(depth, DEPOSIT, pool.first[node], pool.second[node], pool.third[node]);
-            path.nums[depth].copy(machine.result());
+            path.nums[depth].copy(machine.nums[0]);
             return true;
         }
 
