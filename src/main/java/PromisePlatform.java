@@ -957,7 +957,7 @@ public final class PromisePlatform {
          */
         private void divideLong(Num divisor, long[] room) {
             int n = divisor.len;
-            long scale = BASE / (divisor.limb[n - 1] + 1L);
+            long scale = BASE / Math.max(1L, divisor.limb[n - 1] + 1L);
             scaleInto(this, scale, room, 0);
             scaleInto(divisor, scale, room, ROOM_HALF);
             int top = len - n;

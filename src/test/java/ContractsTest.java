@@ -11,6 +11,7 @@ public final class ContractsTest {
         orderOfFaults();
         faultOfOtherTexts();
         manyNodes();
+        manyFaultyTexts();
         brackets();
         dropping();
         printing();
@@ -163,6 +164,14 @@ public final class ContractsTest {
         c.text("assert true close").is(-9, "keep", 0).is(0, "fault", false).is(3999, "told", 5).text("close").is(1, "keep", 0);
         c.text("close").is(-9, "keep", 1).is(4000, "told", 5).writes("close", "print", 0);
         c.is(63, "recover").is(4000, "told", 5);
+    }
+
+    /** Numbers of texts that are not kept take no room from those that are. */
+    static void manyFaultyTexts() {
+        Check c = new Check("many faulty texts");
+        String long20 = ("let x " + NINES + " ").repeat(20);
+        for (int i = 0; i < 60; i++) c.fault(3, long20.length(), long20);
+        c.keep(0, long20 + "close").writes(long20 + "close", "print", 0);
     }
 
     static void brackets() {

@@ -27,7 +27,7 @@ public final class InstancesTest {
         c.text("1" + NINES).is(-1, "parameter", fee).is(2, "fault", false);
         for (int i = 4; i < 20; i++) c.text("" + i).is(i + 1, "parameter", Check.n("p" + i));
         c.text("1").is(-9, "parameter", Check.n("more")).is(20, "told", 6).is(0, "fault", false);
-        c.text("1").is(20, "parameter", Check.n("p19"));
+        c.text("1").is(20, "parameter", Check.n("p19")).text("1").is(20, "parameter", Check.n("a")).text("1").is(20, "parameter", Check.n("zzzzzzzz"));
         c.is(20, "forget").is(0, "told", 6).is(0, "forget").text("1").is(1, "parameter", Check.n("more"));
     }
 

@@ -112,6 +112,10 @@ public final class JournalTest {
         Check c = new Check("-10");
         c.text("1" + " ".repeat(16368)).is(1, "parameter", Check.n("a")).is(16384, "told", 3).is(-10, "forget").is(1, "told", 6).is(1, "recover").is(16384, "told", 3);
         c.is("void", "fuse", 0).is(-10, "forget").is(0, "told", 7);
+        // the KIND behind it would be the last byte of the disk, or the one that is none any more
+        for (int free = 1; free < 5; free++) {
+            c = new Check("near the end").text("1" + " ".repeat(16368 - free)).is(1, "parameter", Check.n("a")).is(16384 - free, "told", 3).is(-10, "forget").is(1, "recover");
+        }
         c = new Check("-10").text("1" + " ".repeat(16369)).is(-10, "parameter", Check.n("a")).is(0, "told", 6).is(0, "told", 4).is(0, "fault", false);
         // six bytes are left: no record of any kind
         c = new Check("-10").keep(0, "close").mint("ada", "gold", 5).keep(1, "when [case deposit ada ada gold 5 close] 9 close").is(0, "begin", 0, 0, 0L).is(0, "begin", 1, 1, 0L).set("p", 1);
@@ -204,8 +208,8 @@ public final class JournalTest {
     }
 
     static void recoverTakesAllAway() {
-        Check c = new Check("promise 35").keep(0, "assert false close").is(0, "begin", 0, 0, 0L).mint("ada", "gold", 3).set("p", 1);
-        c.transact(0, 0, 0, 0, "").is(1, "look", 0, true, 31, 5).text("x").is(-1, "keep", 1).text("abc").is("void", "cut");
+        Check c = new Check("promise 35").keep(0, "when [case deposit ada ada gold 3 assert false close] 9 close").is(0, "begin", 0, 0, 0L).mint("ada", "gold", 3).set("p", 1);
+        c.transact(0, 0, 0, 0, "deposit ada ada gold 3").is(1, "count", 0).is(1, "count", 1).is(1, "look", 0, true, 31, 5).text("x").is(-1, "keep", 1).text("abc").is("void", "cut");
         for (int i = 0; i < 3; i++) c.ask("poke", i, 255);
         c.is(1, "told", 0).is(1, "told", 1).is(3, "told", 2).is(1, "told", 6).is(4, "fault", false);
         c.is(0, "recover");

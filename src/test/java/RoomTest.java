@@ -15,7 +15,7 @@ public final class RoomTest {
     static long objects;
     static long elements;
 
-    public static void main(String[] args) throws IllegalAccessException {
+    public static void main(String[] args) throws ReflectiveOperationException {
         PromisePlatform p = new PromisePlatform();
         measure(p);
         System.out.println("a new one: " + objects + " objects, " + elements + " fields and elements");
@@ -24,12 +24,22 @@ public final class RoomTest {
         System.out.println("behind a deep search: " + objects + " objects, " + elements + " fields and elements");
         boolean fits = objects < 60000 && elements < 1000000;
         for (int i = 0; i < 20; i++) dearCalls(p);
-        com.sun.management.ThreadMXBean made = (com.sun.management.ThreadMXBean) ManagementFactory.getThreadMXBean();
-        long before = made.getCurrentThreadAllocatedBytes();
+        long before = bytesMade();
         for (int i = 0; i < 100; i++) dearCalls(p);
-        long bytes = made.getCurrentThreadAllocatedBytes() - before;
+        long bytes = bytesMade() - before;
         System.out.println("100 searches, transactions, recovers made " + bytes + " bytes anew");
         if (!fits || bytes > 100000) System.exit(1);
+    }
+
+    /** What this thread made so far; always 0 on a Java machine that does not tell. */
+    static long bytesMade() {
+        try {
+            Class<?> bean = Class.forName("com.sun.management.ThreadMXBean");
+            return (long) bean.getMethod("getThreadAllocatedBytes", long.class)
+                    .invoke(ManagementFactory.getThreadMXBean(), Thread.currentThread().getId());
+        } catch (ReflectiveOperationException | RuntimeException none) {
+            return 0;
+        }
     }
 
     static void feed(PromisePlatform p, String text) {

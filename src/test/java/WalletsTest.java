@@ -61,7 +61,7 @@ public final class WalletsTest {
         c.transact(0, 0, 0, 0, "deposit ada ada gold 2").is(0, "wallets");
         for (int i = 1; i < 60; i++) c.mint("ada", "t" + i, 1);
         // gold is in no wallet, but was minted
-        c.is(59, "wallets").text("1").is(-9, "mint", Check.n("ada"), Check.n("u")).mint("ada", "gold", 5).mint("ada", "t9", 1).is(60, "wallets");
+        c.is(59, "wallets").text("1").is(-9, "mint", Check.n("ada"), Check.n("u")).mint("ada", "gold", 5).mint("ada", "t9", 1).mint("ada", "t1", 1).is(60, "wallets");
     }
 
     static void sixtyOneWalletsByATransaction() {
