@@ -106,7 +106,7 @@ public final class ContractsTest {
         return levels == 0 ? "true" : "and " + fullTree(levels - 1) + " " + fullTree(levels - 1);
     }
 
-    /** A text of so many nodes, 2 at least, that is not deep. */
+    /** A text of so many nodes, 3 at least, that is not deep. */
     static String ofNodes(int nodes) {
         StringBuilder b = new StringBuilder();
         int left = nodes - 1;

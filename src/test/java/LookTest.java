@@ -17,11 +17,7 @@ public final class LookTest {
     }
 
     static void look(Check c, int due, int tries, String path, Object... args) {
-        c.is(due, "look", args).is(tries, "tries").is(path.length(), "size");
-        if (!c.out().equals(path)) {
-            Check.wrong++;
-            System.out.println("path " + c.out() + ", due is " + path);
-        }
+        c.is(due, "look", args).is(tries, "tries").outIs(path);
     }
 
     static void wrongCalls() {
