@@ -242,6 +242,17 @@ final class Part1Boundaries {
 
     // ---- NUMBERS that come of reckoning have 300 digits at most; one that would have more is LARGE
 
+    static void part1ProductsOfPowersOf10() {
+        for (int first : new int[] {0, 1, 8, 9, 10, 100, 149, 150, 151, 152, 153, 154, 161, 162, 170, 200, 290, 291, 298, 299}) {
+            StringBuilder lets = new StringBuilder();
+            for (int second = 299 - first; second >= 0 && second > 293 - first; second--) lets.append("let x mul 1" + "0".repeat(first) + " 1" + "0".repeat(second) + " ");
+            new Check().keep(0, lets + "when [] 9 close").is(0, "begin", 0, 0, 0L).transact(0, 0, 0, 0, "");
+            for (int second = 300 - first; second < 300; second += second < 310 - first ? 1 : 7) {
+                Check c = new Check().keep(0, "let x mul 1" + "0".repeat(first) + " 1" + "0".repeat(second) + " close").is(0, "begin", 0, 0, 0L).transact(-8, 0, 0, 0, "");
+            }
+        }
+    }
+
     static void part1ReckoningHas300DigitsAtMost() {
         String half = "1" + "0".repeat(150);
         String[][] rows = {

@@ -234,6 +234,83 @@ final class Part2Boundaries {
         refused(c, 8, 6 + 8 * CASE.length(), "when [" + CASE.repeat(9) + "!");
     }
 
+    static void part2TextWithAFaultLeavesNothing() {
+        String[] texts = {"when [ ] ?t when [ ] 9 close", "when [ ] 9 when [ ] ?t close", "when [ case choice c ada [ 1 2 3 4 ] close ] 9 close", "when [ case deposit ada bob gold 5 close ] 9 close",
+            "pay ada into bob gold 7 close", "pay ada to bob gold 77 close", "let x neg add 12345678901234567890 ?p close", "if true close when [ ] 0 close", "assert eq held a b chosen c d close",
+            "when [ case notify true close case notify false close ] 1 close", "when [ case choice c ada [ 5 5 ] when [ ] 3 close ] 9 close"};
+        for (String bad : texts) {
+            for (String good : texts) {
+                Check fresh = new Check().keep(0, good);
+                Check c = new Check().text(bad + " !").is(-1, "keep", 0).keep(0, good).writes(good, "print", 0);
+                for (int what = 0; what < 5; what++) c.is(fresh.ask("about", 0, what), "about", 0, what);
+                c.is(fresh.ask("told", 5), "told", 5);
+            }
+        }
+    }
+
+    // ---- 4 a token that can't stand there
+
+    static final String[] TOKENS = ("close pay to into if when case deposit choice notify let assert held neg add sub mul div chosen start end use cond "
+            + "and or not chose ge gt le lt eq true false 5 ?p n ( ) [ ]").split(" ");
+    static final String CONTRACT = " close pay if when let assert ( ";
+    static final String VALUE = " 5 ?p held neg add sub mul div chosen start end use cond ( ";
+    static final String OBSERVATION = " and or not chose ge gt le lt eq true false ( ";
+
+    /** Behind each of these texts just these tokens can stand. */
+    static void only(String tokens, String... texts) {
+        Check c = new Check();
+        for (String text : texts) {
+            for (String token : TOKENS) {
+                String whole = text + token;
+                if (!tokens.contains(" " + token + " ")) {
+                    c.faulty(0, 4, text.length(), whole);
+                } else if (c.text(whole).number("keep", 0) < 0) {
+                    c.is(3, "fault", false).is(whole.length(), "fault", true);
+                } else {
+                    c.is(0, "drop", 0);
+                }
+            }
+        }
+    }
+
+    static void part2TokensWhereAContractMustStand() {
+        only(CONTRACT, "", "(", "((", "let x 1 ", "let x 1 (", "if true ", "if true close ", "when [] 1 ", "when [case notify true ", "when [case notify true (", "assert true ",
+                "pay a to b c 1 ", "pay a into b c 1 ", "when [case choice a b [1 1] ", "when [case deposit a b c 1 ", "when [case notify true close] ?p ");
+    }
+
+    static void part2TokensWhereAValueMustStand() {
+        only(VALUE, "let x ", "let x (", "let x neg ", "let x add ", "let x add 1 ", "let x sub ", "let x sub 1 ", "let x mul ", "let x mul 1 ", "let x div ", "let x div 1 ", "let x cond true ",
+                "let x cond true 1 ", "pay a to b c ", "pay a into b c ", "when [case deposit a b c ", "assert eq ", "assert eq 1 ", "assert ge ", "assert ge 1 ", "assert gt ", "assert gt 1 ",
+                "assert le ", "assert le 1 ", "assert lt ", "assert lt 1 ");
+    }
+
+    static void part2TokensWhereAnObservationMustStand() {
+        only(OBSERVATION, "assert ", "assert (", "assert not ", "assert and ", "assert and true ", "assert or ", "assert or true ", "if ", "if (", "let x cond ", "when [case notify ", "when [case notify (");
+    }
+
+    static void part2TokensWhereANameMustStand() {
+        only(" n ", "let ", "pay ", "pay a to ", "pay a into ", "pay a to b ", "when [case deposit ", "when [case deposit a ", "when [case deposit a b ", "when [case choice ", "when [case choice a ",
+                "let x held ", "let x held a ", "let x chosen ", "let x chosen a ", "assert chose ", "assert chose a ", "let x use ");
+    }
+
+    static void part2TokensElsewhere() {
+        only(" to into ", "pay a ");
+        only(" [ ", "when ", "when [case choice a b ");
+        only(" case ] ", "when [", "when [case notify true close ", "when [case deposit a b c 1 close ", "when [case choice a b [1 1] close ");
+        only(" deposit choice notify ", "when [case ", "when [case notify true close case ");
+        only(" 5 ?p ", "when [] ", "when [case notify true close] ");
+        only(" 5 ", "when [case choice a b [", "when [case choice a b [1 ", "when [case choice a b [1 1 1 ");
+        only(" 5 ] ", "when [case choice a b [1 1 ", "when [case choice a b [1 1 1 1 1 1 ");
+        only(" ) ", "(close ", "((close) ", "let x (1 ", "assert (true ", "let x (neg 1 ", "(let x 1 close ", "when [case notify true (close ");
+    }
+
+    static void part2TokensBehindTheWhole() {
+        Check c = new Check();
+        for (String text : new String[] {"close ", "(close) ", "let x 1 close ", "when [] 1 close "}) {
+            for (String token : TOKENS) c.faulty(0, 9, text.length(), text + token);
+        }
+    }
+
     // ---- CONTRACTS 0 .. 15 are kept, or not (at first none is)
 
     static void part2ContractsAre0To15() {

@@ -81,6 +81,21 @@ final class Part3Boundaries {
         for (String[] row : rows) value(row[2], "div " + row[0] + " " + row[1]);
     }
 
+    static void part3AddSubMulWhereNineDigitsEnd() {
+        String[][] rows = {{"add 999999999 1", "1000000000"}, {"add 999999998 1", "999999999"}, {"add 1 999999999999999999", "1000000000000000000"}, {"add 999999999 999999999", "1999999998"},
+            {"sub 1000000000 1", "999999999"}, {"sub 1000000000000000000 1", "999999999999999999"}, {"sub 1000000000 1000000000", "0"}, {"sub 1 1000000000", "-999999999"},
+            {"sub 1000000000000000000 999999999999999999", "1"}, {"add -1000000000 1", "-999999999"}, {"add 1 -1000000000", "-999999999"}, {"sub -999999999 1", "-1000000000"}, {"add 0 -5", "-5"},
+            {"sub 0 5", "-5"}, {"sub 0 -5", "5"}, {"add -5 0", "-5"}, {"mul 999999999 999999999", "999999998000000001"}, {"mul 1000000000 1000000000", "1000000000000000000"}, {"mul -1 1000000000", "-1000000000"},
+            {"mul 999999999999999999 999999999999999999", "999999999999999998000000000000000001"}, {"mul -3 -4", "12"}, {"mul 3 -4", "-12"}, {"mul 1000000000 5", "5000000000"},
+            {"sub mul 999999999 999999999 mul 999999998 1000000000", "1"}};
+        for (String[] row : rows) value(row[1], row[0]);
+        // again and again by the same object: nothing of what was worked out before stays
+        StringBuilder lets = new StringBuilder();
+        for (String[] row : rows) lets.append("let x ").append(row[0]).append(' ');
+        Check c = new Check().keep(0, lets + "when [] 90 close").is(0, "begin", 0, 0, 0L).transact(0, 0, 0, 0, "").is(rows.length - 1, "count", 1);
+        for (int i = 0; i + 1 < rows.length; i++) c.writes(rows[i][1], "amount", i, true);
+    }
+
     static void part3CondWorksOutJustOneValue() {
         value("1", "cond true 1 " + LARGE);
         value("1", "cond false " + LARGE + " 1");

@@ -98,6 +98,37 @@ final class Part4Boundaries {
         refused(c, -9, 10, 10, "notify").transact(0, 0, 900, 900, "").is(40, "state", 0, 3);
     }
 
+    // ---- all are in order: by party, then token; by NAME, then party; by NAME
+
+    static void part4EntriesAreInOrder() {
+        String[][] names = {{"z", "aa"}, {"a", "b"}, {"a", "a"}, {"aa", "a"}, {"z", "b"}, {"zz", "a"}, {"aa", "zz"}};
+        int[] order = {2, 1, 4, 0, 3, 6, 5};
+        StringBuilder head = new StringBuilder();
+        StringBuilder inputs = new StringBuilder();
+        StringBuilder lets = new StringBuilder();
+        Check c = new Check();
+        for (int i = 0; i < names.length; i++) {
+            String two = names[i][0] + " " + names[i][1];
+            c.mint("ada", names[i][1], 100);
+            head.append("when [case deposit ").append(names[i][0]).append(" ada ").append(names[i][1]).append(" ").append(i + 1).append(" when [case choice ").append(two).append(" [0 9] ");
+            inputs.append("deposit ").append(names[i][0]).append(" ada ").append(names[i][1]).append(" ").append(i + 1).append(" choice ").append(two).append(" ").append(i).append(" ");
+        }
+        String[] single = {"zz", "z", "a0", "aa", "a"};
+        for (String name : single) {
+            c.set(name, name.length());
+            lets.append("let ").append(name).append(" 1 ");
+        }
+        c.keep(0, head + lets.toString() + WAITING + "] 900 close] 900 close".repeat(names.length)).is(0, "begin", 0, 0, 0L).transact(0, 0, 0, 0, inputs.toString());
+        for (int e = 0; e < order.length; e++) {
+            for (int what = 1; what <= 2; what++) {
+                c.is(Check.n(names[order[e]][0]), "name", 0, what, e, false).is(Check.n(names[order[e]][1]), "name", 0, what, e, true);
+                c.writes("" + (what == 1 ? order[e] + 1 : order[e]), "entry", 0, what, e);
+            }
+        }
+        String[] sorted = {"a", "z", "a0", "aa", "zz"};
+        for (int e = 0; e < 5; e++) c.is(Check.n(sorted[e]), "name", 0, 3, e, false).is(Check.n(sorted[e]), "name", 0, 4, e, false).writes("" + sorted[e].length(), "entry", 0, 4, e);
+    }
+
     // ---- or by which there would be more than 60 payments, or 60 warnings
 
     static void part4PaymentsAre60AtMost() {
@@ -159,6 +190,10 @@ final class Part4Boundaries {
                 c.conserved();
             }
         }
+        // between pays that pay
+        Check c = begun("when [case deposit ada ada gold 9 pay ada to bob gold 4 pay ada to bob gold 0 pay ada to bob gold 1 pay ada into bob gold -1 pay eve to bob gold 2 " + WAITING + "] 900 close");
+        c.transact(0, 0, 10, 10, "deposit ada ada gold 9").is(2, "count", 0).payment(0, 0, "ada", "bob", "gold", "4").payment(1, 0, "ada", "bob", "gold", "1").is(3, "count", 1);
+        c.warning(0, 2, "ada", "bob", "gold", "0").warning(1, 2, "ada", "bob", "gold", "-1").warning(2, 3, "eve", "bob", "gold", "2").writes("4", "entry", 0, 1, 0).conserved();
         begun("pay ada to bob gold neg " + NINES + " " + WAITING).transact(0, 0, 10, 10, "").warning(0, 2, "ada", "bob", "gold", "-" + NINES);
     }
 

@@ -12,6 +12,29 @@ final class Part6Boundaries {
         return new Check().keep(0, contract);
     }
 
+    // ---- from an instance as it is, or from a contract with LEAST TIME 0 and the PARAMETERS that are told
+
+    static void part6ParametersOfTheInstanceOrThoseThatAreTold() {
+        Check c = fresh("when [case deposit ada bob gold ?p close] ?t assert false close").set("p", 3).set("t", 7).is(0, "begin", 0, 0, 5L).set("p", 0).set("t", 9);
+        look(c, 1, 1, "deposit ada bob gold 0 at 0", 0, true, 1, 400);
+        look(c, 0, 2, "", 0, false, 1, 400);
+        look(c, 1, 2, "wait 7", 0, false, 16, 400);
+        look(c, 1, 2, "wait 9", 0, true, 16, 400);
+        // its time is at the LEAST TIME, or beside it
+        for (int time = 4; time <= 6; time++) {
+            c = fresh("when [case notify true close] ?t when [] 50 assert false close").set("t", time).is(0, "begin", 0, 0, 5L).set("t", 0);
+            look(c, 1, time == 6 ? 3 : 2, (time == 6 ? "wait 6" : "wait 5") + " wait 50", 0, false, 16, 400);
+            look(c, 1, 2, "wait 0 wait 50", 0, true, 16, 400);
+        }
+    }
+
+    static void part6StateOfTheInstanceOrNothing() {
+        String contract = "let x 1 when [case choice c ada [4 4] when [case notify true assert not chose c ada assert eq use x 0 close] 20 close] 10 close";
+        Check c = fresh(contract).is(0, "begin", 0, 0, 3L).transact(0, 0, 5, 6, "choice c ada 4");
+        look(c, 1, 1, "notify at 5", 0, false, 16, 400);
+        look(c, 1, 3, "wait 0 choice c ada 4 at 0 notify at 0", 0, true, 16, 400);
+    }
+
     // ---- no QUIET one: one try without inputs; a close without accounts: none; a when that is QUIET: its cases
 
     static void part6CloseWithoutAccountsHasNoTry() {

@@ -16,6 +16,15 @@ final class Promises12To20Boundaries {
         for (String good : new String[] {"0", "-0", "1", "-1", NINES, "-" + NINES, "000", " 7 ", "\n7\u0000"}) c.text(good).is(1, "parameter", ADA).is(0, "fault", false).is(1, "told", 6);
     }
 
+    static void promise12TokensOfANumber() {
+        Check c = new Check();
+        for (String token : Part2Boundaries.TOKENS) {
+            if (token.equals("5")) c.text(token).is(1, "parameter", ADA);
+            else c.refusesText(-1, token, "parameter", ADA).is(4, "fault", false).is(0, "fault", true);
+            c.refusesText(-1, "7 " + token, "parameter", ADA).is(9, "fault", false).is(2, "fault", true);
+        }
+    }
+
     static void promise12TwentyAtMost() {
         Check c = new Check();
         for (int i = 0; i < 20; i++) c.text("1").is(i + 1, "parameter", Check.n("p" + i)).text("2").is(i + 1, "parameter", Check.n("p" + i));
@@ -100,10 +109,25 @@ final class Promises12To20Boundaries {
         c.keep(2, "let x ?t when [] ?t close").set("t", -1).refuses(-11, "begin", 5, 2, 0L).set("t", 0).is(0, "begin", 5, 2, 0L);
     }
 
+    static void promise14ParametersOfItsOwnContractAlone() {
+        // contracts that stand before and behind it have others; so has a text that was no contract
+        Check c = new Check().keep(0, "when [] ?a close").keep(1, "close").keep(2, "when [] ?b close").is(0, "begin", 0, 1, 0L).is(-11, "begin", 1, 2, 0L).keep(3, "let x 1 close");
+        c.text("when [] ?c when [] ?d !").is(-1, "keep", 4).is(0, "begin", 1, 3, 0L).is(0, "look", 1, true, 31, 9).is(0, "look", 3, true, 31, 9).set("a", 1).is(0, "begin", 2, 0, 0L);
+    }
+
     static void promise14AllParametersAsTheyAre() {
         Check c = new Check().keep(0, "close").is(0, "begin", 0, 0, 0L).is(0, "state", 0, 4);
         for (int i = 0; i < 20; i++) c.set("p" + (char) ('a' + i), i);
         c.is(0, "begin", 1, 0, 0L).is(20, "state", 1, 4).writes("0", "entry", 1, 4, 0).writes("19", "entry", 1, 4, 19).refuses(Check.INDEX, "entry", 1, 4, 20).is(0, "state", 0, 4);
+    }
+
+    static void promise14NothingOfAnInstanceThatWasThereBefore() {
+        Check c = new Check().mint("ada", "gold", 5).keep(0, "when [case deposit ada ada gold 5 when [case choice c ada [1 1] let x 1 close] 9 close] 9 close").set("p", 1).is(0, "begin", 3, 0, 5L);
+        c.transact(0, 3, 6, 6, "deposit ada ada gold 5 choice c ada 1").is(1, "state", 3, 2).is(1, "state", 3, 3).is(1, "state", 3, 4).is(0, "end", 3).is(1, "forget").is(0, "begin", 3, 0, 2L).is(2, "state", 3, 0);
+        for (int what = 1; what < 6; what++) c.is(0, "state", 3, what);
+        c.writes("when [ case deposit ada ada gold 5 when [ case choice c ada [ 1 1 ] let x 1 close ] 9 close ] 9 close", "rest", 3);
+        // a fresh look has nothing of an instance, nor of a look before it
+        c.keep(1, "assert not chose c ada assert eq use x 0 assert eq held ada gold 0 close").is(0, "look", 1, true, 31, 400).is(0, "look", 3, false, 31, 400).is(0, "look", 1, true, 31, 400);
     }
 
     static void promise14FullByOneByte() {
@@ -154,6 +178,22 @@ final class Promises12To20Boundaries {
             c.refusesText(-1, (String) row[0], "transact", 0, 5L, 4L).is(row[1], "fault", false).is(row[2], "fault", true);
         }
         c.refusesText(-2, "deposit a b c 1 choice a b 1 notify", "transact", 0, 5L, 4L);
+    }
+
+    static void promise16TokensOfInputs() {
+        Check c = new Check().keep(0, "when [case notify true close] 5 close").is(0, "begin", 0, 0, 0L);
+        String begins = " deposit choice notify ";
+        String[][] rows = {{"", begins}, {"notify ", begins}, {"deposit a b c 1 ", begins}, {"choice a b 1 ", begins}, {"deposit ", " n "}, {"deposit a ", " n "}, {"deposit a b ", " n "},
+            {"deposit a b c ", " 5 "}, {"choice ", " n "}, {"choice a ", " n "}, {"choice a b ", " 5 "}};
+        for (String[] row : rows) {
+            for (String token : Part2Boundaries.TOKENS) {
+                String text = row[0] + token;
+                // in an interval that is none, so that nothing is DONE
+                int code = c.text(text).number("transact", 0, 5L, 4L);
+                if (!row[1].contains(" " + token + " ")) c.is(4, "fault", false).is(row[0].length(), "fault", true);
+                else c.is(code == -2 ? 0 : 3, "fault", false).is(code == -2 ? -1 : text.length(), "fault", true);
+            }
+        }
     }
 
     static void promise16FortyInputs() {

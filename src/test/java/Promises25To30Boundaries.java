@@ -23,6 +23,13 @@ final class Promises25To30Boundaries {
         c.refusesText(-5, "-1", "mint", ADA, GOLD).refusesText(-5, "0", "mint", ADA, GOLD).text("1").is(0, "mint", ADA, GOLD).writes("1", "wallet", ADA, GOLD);
     }
 
+    static void promise25FirstAndLastOfSixtyTokens() {
+        Check c = new Check();
+        for (int i = 10; i < 70; i++) c.mint("ada", "t" + i, 1);
+        c.refusesText(-9, "1", "mint", ADA, Check.n("t70")).refusesText(-9, "1", "mint", ADA, Check.n("a"));
+        for (String token : new String[] {"t10", "t11", "t68", "t69"}) c.mint("ada", token, 1).writes("2", "total", Check.n(token), 3).writes("2", "wallet", ADA, Check.n(token));
+    }
+
     static void promise25LargeByOne() {
         Check c = new Check().mint("ada", "gold", EIGHT).refusesText(-8, "2", "mint", ADA, GOLD).refusesText(-8, NINES, "mint", ADA, GOLD).mint("ada", "gold", 1).refusesText(-8, "1", "mint", ADA, GOLD);
         // what was minted of the token, though the wallet would not be
@@ -44,8 +51,9 @@ final class Promises25To30Boundaries {
         c.is(0, "begin", 0, 0, 0L).transact(0, 0, 0, 0, "deposit ada ada gold 1 deposit ada ada oil 1").is(0, "wallets");
         for (int i = 2; i < 59; i++) c.mint("ada", "t" + i, 1);
         c.is(57, "wallets").mint("ada", "t59", 1).refusesText(-9, "1", "mint", ADA, Check.n("t60")).mint("ada", "gold", 1).mint("bob", "gold", 1).is(60, "wallets");
+        c.mint("ada", "t2", 1).mint("ada", "t59", 1);
         // since the latest recover(), with those that it did
-        c.is(65, "recover").refusesText(-9, "1", "mint", ADA, Check.n("t60")).refusesText(-9, "1", "mint", ADA, OIL);
+        c.is(67, "recover").refusesText(-9, "1", "mint", ADA, Check.n("t60")).refusesText(-9, "1", "mint", ADA, OIL);
     }
 
     static void promise25FullByOneByte() {
@@ -73,6 +81,15 @@ final class Promises25To30Boundaries {
         c.mint("ada", "gold", EIGHT).mint("bob", "gold", 1).mint("ada", "oil", 3).keep(0, "when [case deposit eve ada gold " + EIGHT + " when [] 9 close] 9 close").is(0, "begin", 0, 0, 0L).is(0, "begin", 15, 0, 0L);
         c.writes(NINES, "total", GOLD, 0).writes("0", "total", GOLD, 1).transact(0, 15, 0, 0, "deposit eve ada gold " + EIGHT).writes("1", "total", GOLD, 0).writes(EIGHT, "total", GOLD, 1);
         c.writes(NINES, "total", GOLD, 2).writes(NINES, "total", GOLD, 3).writes("3", "total", OIL, 0).writes("0", "total", OIL, 1);
+    }
+
+    static void promise25TokensOfANumber() {
+        Check c = new Check();
+        for (String token : Part2Boundaries.TOKENS) {
+            if (token.equals("5")) continue;
+            c.refusesText(-1, token, "mint", ADA, GOLD).is(4, "fault", false).is(0, "fault", true).refusesText(-1, "7 " + token, "mint", ADA, GOLD).is(9, "fault", false).is(2, "fault", true);
+        }
+        c.text("5").is(0, "mint", ADA, GOLD);
     }
 
     static void promise28WalletsFrom0To60() {

@@ -66,6 +66,14 @@ final class Promises31To36Boundaries {
         c.is("void", "cut").is(20, "recover").is(0, "told", 7);
     }
 
+    static void promise35AnyNumberOfTimes() {
+        // what it keeps takes the room of what it took away: numbers of 300 digits, 1000 nodes
+        String lets = ("let x " + "9".repeat(300) + " ").repeat(40) + "close";
+        Check c = new Check().keep(0, lets).text(Part2Boundaries.small(1000)).is(1000, "keep", 1).is(0, "begin", 0, 0, 0L);
+        for (int i = 0; i < 60; i++) c.is(3, "recover").is(1081, "told", 5);
+        c.writes(lets, "print", 0).is(1000, "about", 1, 1).writes(lets, "rest", 0).keep(2, "let x 7 close").writes("let x 7 close", "print", 2).writes(lets, "print", 0);
+    }
+
     static void promise35EachKindIsDoneAgain() {
         Check c = new Check().keep(0, "when [case deposit ada bob gold ?p when [] 20 close] 9 close").mint("bob", "gold", 9).set("p", 4).is(0, "begin", 0, 0, 2L).transact(0, 0, 3, 5, "deposit ada bob gold 4");
         c.keep(1, "close").is(0, "begin", 1, 1, 0L).is(0, "end", 1).is(0, "drop", 1).is(1, "forget").set("q", 7);

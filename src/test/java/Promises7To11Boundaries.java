@@ -122,6 +122,17 @@ final class Promises7To11Boundaries {
         for (int what = 0; what < 5; what++) c.is(first[what], "about", 0, what).is(last[what], "about", 15, what);
     }
 
+    static void promise11OfItsOwnTextAlone() {
+        // a contract that stands behind it, or a text that was none, does not count
+        String more = "when [case deposit a b c ?p pay a into b c 1 close] 9 when [] ?t close";
+        for (String next : new String[] {more, "when [] ?t close", "when [] 9 close", "pay a into b c ?p close", "if true close close"}) {
+            Check c = new Check().keep(0, "close").keep(1, next).keep(2, "let x 1 close").text(next + " !").is(-1, "keep", 3);
+            long[] due = {-1, 1, 0, 0, 0};
+            for (int what = 0; what < 5; what++) c.is(due[what], "about", 0, what).is(what == 1 ? 3 : due[what], "about", 2, what);
+            c.writes("close", "print", 0).writes("let x 1 close", "print", 2);
+        }
+    }
+
     static void promise11GreatestTime() {
         Check c = new Check().keep(0, "when [] ?t close").is(-1, "about", 0, 0).keep(1, "when [] 0 close").is(0, "about", 1, 0).keep(2, "when [] ?t when [] 3 when [] 2 close").is(3, "about", 2, 0);
         c.keep(3, "when [case notify true when [] 1000000000000000 close] 999999999999999 close").is(1000000000000000L, "about", 3, 0);
