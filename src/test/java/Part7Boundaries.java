@@ -264,8 +264,8 @@ final class Part7Boundaries {
     // ---- recover() takes all that there is away
 
     static void part7RecoverTakesAllAway() {
-        Check c = ready(500).transact(0, 1, 3, 3, "deposit ada ada gold 5").is(1, "count", 0).keep(2, "assert false close").is(0, "begin", 2, 2, 0L).transact(0, 2, 0, 0, "").is(1, "count", 1);
-        c.is(0, "look", 1, true, 31, 9).text("!").is(-1, "keep", 5).text("12345").is(5, "show").is("void", "cut").is(11, "told", 4).is(0, "poke", 0, 1).is(0, "recover");
+        Check c = ready(500).keep(2, "when [case deposit ada ada gold 5 assert false close] 9 close").is(0, "begin", 2, 2, 0L).transact(0, 2, 0, 0, "deposit ada ada gold 5").is(1, "count", 0).is(1, "count", 1);
+        c.is(0, "look", 1, true, 31, 9).text("!").is(-1, "keep", 5).text("12345").is(5, "show").is("void", "cut").is(10, "told", 4).is(0, "poke", 0, 1).is(0, "recover");
         for (int what = 0; what < 8; what++) c.is(0, "told", what);
         c.is(0, "size").is(0, "word", 0).is(0, "show").is(-1, "fault", false).is(-1, "fault", true).is(0, "wallets").is(0, "tries").is(0, "count", 0).is(0, "count", 1);
         for (int what = 0; what < 4; what++) c.writes("0", "total", GOLD, what);
